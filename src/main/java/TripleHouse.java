@@ -207,8 +207,8 @@ public final class TripleHouse {
     }
 
     public int least(int set) {
-        // The order that begins with office 0 takes the lower region, district and office
-        // first, and a lower one always weighs less than all that it stands for.
+        // An office weighs more than all lower ones together, so the least sum is the one that
+        // takes the lower region, district and office first.
         return Sets.pick(set, 0);
     }
 

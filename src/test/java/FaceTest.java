@@ -39,7 +39,7 @@ public final class FaceTest {
 
     private static final String[] RULED_OUT = {
         "->", "::", "\\btry\\b", "\\bcatch\\b", "\\bfinally\\b", "\\bsynchronized\\b", "\\bassert\\b",
-        "Exact\\b", "\\bpackage\\b", "\\bSystem\\b", "\\bThread\\b", "\\bRandom\\b", "\\bObject\\b",
+        "Exact\\b", "\\bpackage\\b", "\\bSystem\\.(?!arraycopy\\b)", "\\bThread\\b", "\\bRandom\\b", "\\bObject\\b",
         "\\bprotected\\b", "\\bnative\\b", "\\bstatic \\{", "@",
     };
 

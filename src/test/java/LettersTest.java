@@ -7,7 +7,10 @@ public final class LettersTest {
         acceptedDraftIsTakenOver();
         greatestBallotWins();
         noWhileSettling();
+        broughtAgainWhenBegunAnew();
         oldLettersChangeNothing();
+        oldGivesAndTakensOfAnotherBallot();
+        takensForARunThatIsGone();
         giveBringsWhatWasAcceptedThen();
         tellEndsOrRenewsRuns();
         tellOfAnotherNumber();
@@ -210,6 +213,83 @@ public final class LettersTest {
         Due.is("no further round", x.run(0, 2), 81);
     }
 
+    /** Office 1 hears of draft 0, begins anew by a NO, and hears of it once more. */
+    private static void broughtAgainWhenBegunAnew() {
+        TripleHouse x = new TripleHouse();
+        Steps.start(x, 0, 0, 0, 0);
+        Steps.deliverFirst(x, 24);
+        Steps.loseAll(x);
+        Steps.start(x, 1, 0, 0, 0);
+        Steps.deliverFirst(x, 8);
+        for (int k = 0; k < 7; k++) {
+            Due.is("a GIVE", x.deliver(0), 0);
+        }
+        Steps.loseAll(x);
+        Steps.start(x, 2, 0, 0, 0);
+        Due.is("2 promised more than 1 asked for", x.promised(2), 83);
+        x.resend(1);
+        Due.is("14 has not answered", x.letter(x.letters() - 1, 2), 14);
+        x.deliver(Steps.find(x, 0, 14));
+        Due.is("14 promised to 2", x.promised(14), 83);
+        x.deliver(Steps.find(x, 0, 14));
+        Due.is("a NO", x.deliver(Steps.find(x, 2, 1)), 8);
+        x.crash(2);
+        x.restart(2);
+        Due.is("begun anew", x.run(1, 2), 4 * 27 + 1);
+        askUntilSettling(x, 1);
+        Due.is("draft 0 once more", x.letter(Steps.find(x, 3, 1), 5), 0);
+    }
+
+    /** What was given or taken for an old ballot does not count for the present one. */
+    private static void oldGivesAndTakensOfAnotherBallot() {
+        TripleHouse x = new TripleHouse();
+        Steps.start(x, 0, 0, 0, 0);
+        x.deliver(Steps.find(x, 0, 13));
+        int give = x.letters() - 1;
+        x.twin(give);
+        x.crash(0);
+        x.restart(0);
+        Due.is("a GIVE without a run", x.deliver(give), 0);
+        Steps.start(x, 0, 0, 0, 0);
+        Due.is("round 2", x.run(0, 2), 54);
+        Due.is("a GIVE of round 1", x.deliver(Steps.find(x, 1, 0)), 0);
+        Due.is("does not count", x.asked(0, false), 0);
+
+        TripleHouse y = new TripleHouse();
+        Steps.start(y, 0, 0, 0, 0);
+        Steps.deliverFirst(y, 24);
+        Due.is("eight TAKENs wait", y.letters(), 8);
+        y.crash(0);
+        y.restart(0);
+        Steps.start(y, 0, 0, 0, 0);
+        for (int k = 0; k < 8; k++) {
+            y.deliver(8);
+        }
+        for (int k = 0; k < 8; k++) {
+            y.deliver(8);
+        }
+        Due.is("settling in round 2", y.run(0, 0), 2);
+        Due.is("TAKENs first", y.letter(0, 0), 4);
+        for (int k = 0; k < 8; k++) {
+            Due.is("a TAKEN of round 1", y.deliver(0), 0);
+            Due.is("does not count", y.asked(0, false), 0);
+        }
+        Due.is("not decided", y.decided(0, 0), -1);
+    }
+
+    private static void takensForARunThatIsGone() {
+        TripleHouse x = new TripleHouse();
+        Steps.start(x, 0, 0, 0, 0);
+        Steps.deliverFirst(x, 24);
+        Due.is("TAKEN", x.letter(0, 0), 4);
+        x.deliver(0);
+        x.crash(0);
+        x.restart(0);
+        Steps.deliverAll(x);
+        Due.is("nobody counts them", x.decided(0, 0), -1);
+        Due.is("no run", x.run(0, 0), 0);
+    }
+
     private static void oldLettersChangeNothing() {
         TripleHouse x = new TripleHouse();
         Steps.start(x, 0, 0, 0, 0);
@@ -394,6 +474,32 @@ public final class LettersTest {
         Due.is("both from 4", x.letter(7, 1), 4);
         Due.is("both from 4", x.letter(8, 1), 4);
         twinBringsTheSame();
+        twinsOfOtherKinds();
+    }
+
+    private static void twinsOfOtherKinds() {
+        TripleHouse x = new TripleHouse();
+        x.draft(0, 0);
+        Steps.start(x, 0, 0, 0, 0);
+        Steps.deliverFirst(x, 16);
+        x.twin(2);
+        checkLetter(x, 8, 3, 0, 3, 27, 0, 1);
+        Steps.deliverFirst(x, 2);
+        x.twin(x.letters() - 1);
+        checkLetter(x, x.letters() - 1, 4, 1, 0, 27, 0, -1);
+        Steps.deliverAll(x);
+        x.spread(0);
+        x.twin(1);
+        checkLetter(x, 6, 5, 0, 2, 0, 0, 1);
+        Steps.loseAll(x);
+        Steps.start(x, 25, 0, 0, 0);
+        x.deliver(Steps.find(x, 0, 1));
+        Steps.loseAll(x);
+        Steps.start(x, 2, 0, 0, 0);
+        x.silent(2, 2);
+        x.deliver(Steps.find(x, 0, 1));
+        x.twin(x.letters() - 1);
+        checkLetter(x, x.letters() - 1, 2, 1, 2, 29, -1, 52);
     }
 
     private static void twinBringsTheSame() {

@@ -1,4 +1,4 @@
-/** Runs of calls that several tests need. */
+/** Runs of calls that several tests need, with few calls: an object is good for 512. */
 final class Steps {
     private Steps() {
     }
@@ -29,13 +29,14 @@ final class Steps {
     }
 
     static void deliverAll(TripleHouse x) {
-        for (int k = 0; k < 400 && x.letters() > 0; k++) {
-            x.deliver(0);
+        int waiting = x.letters();
+        for (int k = 0; k < 400 && waiting > 0; k++) {
+            waiting += x.deliver(0) - 1;
         }
     }
 
     static void loseAll(TripleHouse x) {
-        for (int k = 0; k < 400 && x.letters() > 0; k++) {
+        for (int waiting = x.letters(); waiting > 0; waiting--) {
             x.lose(0);
         }
     }
@@ -59,7 +60,8 @@ final class Steps {
 
     /** The index of the first letter of a kind to an office, or -1. */
     static int find(TripleHouse x, int kind, int to) {
-        for (int i = 0; i < x.letters(); i++) {
+        int waiting = x.letters();
+        for (int i = 0; i < waiting; i++) {
             if (x.letter(i, 0) == kind && x.letter(i, 2) == to) {
                 return i;
             }
