@@ -9,14 +9,20 @@ final class Due {
     }
 
     private static int wrong = 0;
+    private static String within = "";
 
     private Due() {
+    }
+
+    /** Names the case that the next answers belong to. */
+    static void within(String name) {
+        within = name + ": ";
     }
 
     static void is(String what, long got, long want) {
         if (got != want) {
             wrong++;
-            System.out.println(what + " answered " + got + ", due is " + want);
+            System.out.println(within + what + " answered " + got + ", due is " + want);
         }
     }
 
