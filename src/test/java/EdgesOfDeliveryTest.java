@@ -273,6 +273,16 @@ public final class EdgesOfDeliveryTest {
         }, 7);
     }
 
+    /** The eighth GIVE makes no quorum when the run that had seven of them is gone. */
+    static void eighthGiveForARunThatIsGone() {
+        doesNothing(x -> {
+            States.asking(x);
+            Steps.deliverFirst(x, 15);
+            x.crash(0);
+            x.restart(0);
+        }, 0);
+    }
+
     static void giveOfAnotherBallot() {
         doesNothing(x -> {
             States.asking(x);
@@ -308,6 +318,20 @@ public final class EdgesOfDeliveryTest {
             x.twin(7);
             Steps.deliverFirst(x, 8);
         }, 0);
+    }
+
+    /** The eighth TAKEN decides nothing when the run that had seven of them is gone. */
+    static void eighthTakenForARunThatIsGone() {
+        Edge.Calls gone = x -> {
+            States.settling(x);
+            Steps.deliverFirst(x, 15);
+            x.crash(0);
+            x.restart(0);
+        };
+        doesNothing(gone, 0);
+        TripleHouse x = Edge.after(gone);
+        x.deliver(0);
+        Due.is("not decided", x.decided(0, 0), -1);
     }
 
     /** The office is settling in its second run when a TAKEN of the first one comes. */
